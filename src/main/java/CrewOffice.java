@@ -820,7 +820,10 @@ public final class CrewOffice {
             return 1L << (MOST_PAIRINGS - 1 - pairing);
         }
 
-        /** The least price of pairings that work these flights; each level has a flight less than the one above. */
+        /**
+         * The least price of pairings that work these flights. One of them works the first flight: it is tried with
+         * the best for the rest, which has a flight less, so that it goes no deeper than there are flights.
+         */
         private int cheapest(int flights) {
             if (flights == 0) {
                 pickings[0] = 0;
@@ -829,12 +832,13 @@ public final class CrewOffice {
             if (prices[flights] != UNKNOWN) {
                 return prices[flights];
             }
+            int first = flights & -flights;
             int least = NO_PRICE;
             long picking = 0;
             for (int k = 0; k < listing.count; k++) {
                 Work work = listing.works[k];
                 int rest = flights & ~work.flights;
-                if (work.hasFlight(Integer.numberOfTrailingZeros(flights))) {
+                if ((work.flights & first) != 0) {
                     int price = priceOf(work) + cheapest(rest);
                     long picked = bitOf(k) | pickings[rest];
                     if (price < least || (price == least && picked > picking)) {
