@@ -24,6 +24,8 @@ final class AwardTest {
         byRank();
         equalScores();
         leavesWhatOthersCanWork();
+        twoAtOnce();
+        twoBases();
         nobodyCan();
         rulesOfACrew();
         restBetween();
@@ -292,6 +294,44 @@ final class AwardTest {
         due.equal("score(0)", x.score(0), 0);
         x.bid(1, 0, 0, -1);
         awarded(x, "crew 2 can work the first day, too", 2, 2, 1);
+    }
+
+    /** Two pairings at once: the crew behind cannot work both, so the first one must take one that it does not like. */
+    private static void twoAtOnce() {
+        CrewOffice x = new CrewOffice();
+        x.flight(0, 0, 1, 480, 600, 0);
+        x.flight(1, 1, 0, 660, 780, 0);
+        x.flight(2, 0, 2, 480, 600, 0);
+        x.flight(3, 2, 0, 660, 780, 0);
+        x.crew(1, 0, 5, 7, 0);
+        x.crew(2, 0, 9, 7, 0);
+        x.bid(2, 1, 0, -10);
+        taken(x, 2);
+        awarded(x, "the least of equal ones", 2, 1);
+        x.bid(2, 1, 1, -1);
+        awarded(x, "the better one", 1, 2);
+        due.equal("score(2)", x.score(2), -10);
+        x.crew(0, 0, 0, 7, 0);
+        taken(x, 2);
+        awarded(x, "the two crews behind can", 1, 0);
+        due.equal("score(2)", x.score(2), 0);
+    }
+
+    /** The same way begun at two bases: each crew works what begins at its own. */
+    private static void twoBases() {
+        CrewOffice x = new CrewOffice();
+        x.rule(6, 1);
+        x.flight(0, 0, 1, 480, 600, 0);
+        x.flight(1, 1, 0, 660, 780, 0);
+        x.flight(2, 1, 0, 3360, 3480, 0);
+        x.flight(3, 0, 1, 3540, 3660, 0);
+        x.crew(0, 0, 5, 7, 0);
+        x.crew(1, 1, 9, 7, 0);
+        taken(x, 2);
+        awarded(x, "one each", 0, 1);
+        x.crew(2, 0, 99, 7, 0);
+        taken(x, 2);
+        awarded(x, "one each, but nothing for crew 0", 2, 1);
     }
 
     private static void nobodyCan() {

@@ -181,6 +181,14 @@ final class ChainTest {
 
     private static void legsOfADuty() {
         both(shuttle(4, 30, 30), "4 legs", 0);
+        CrewOffice five = shuttle(5, 30, 30);
+        five.flight(1, 1, 2, 540, 570, 0);
+        five.flight(2, 2, 0, 600, 630, 0);
+        five.flight(3, 0, 1, 660, 690, 0);
+        five.flight(4, 1, 0, 720, 750, 0);
+        both(five, "5 legs", 3);
+        five.rule(5, 5);
+        both(five, "5 legs, LEGS 5", 0);
         CrewOffice x = shuttle(6, 30, 30);
         both(x, "6 legs", 3);
         x.rule(5, 5);
