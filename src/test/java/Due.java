@@ -1,15 +1,59 @@
-/** Counts and prints the calls whose answers are not as due. */
+import java.lang.reflect.InvocationTargetException;
+import java.lang.reflect.Method;
+import java.util.Arrays;
+import java.util.Comparator;
+
+/** Runs tests, and counts and prints the answers that are not as due. */
 final class Due {
-    private final String test;
-    private int calls;
+    /** What the names of test methods begin with; the promise's number, of two digits, follows. */
+    static final String TEST = "promise";
+
+    static final Class<? extends RuntimeException> ARGUMENT = IllegalArgumentException.class;
+    static final Class<? extends RuntimeException> ELEMENT = java.util.NoSuchElementException.class;
+    static final Class<? extends RuntimeException> STATE = IllegalStateException.class;
+
+    private final String file;
+    private String test;
+    private int tests;
+    private int answers;
     private int wrong;
 
-    Due(String test) {
-        this.test = test;
+    Due(String file) {
+        this.file = file;
+        test = file;
+    }
+
+    /** Runs every test method of a class, so that none is forgotten in a list, and ends. */
+    void runAll(Class<?> all) {
+        Method[] methods = all.getDeclaredMethods();
+        Arrays.sort(methods, Comparator.comparing(Method::getName));
+        for (Method method : methods) {
+            if (method.getName().startsWith(TEST) && method.getParameterCount() == 0) {
+                run(method);
+            }
+        }
+        end();
+    }
+
+    private void run(Method method) {
+        test = file + "." + method.getName();
+        tests++;
+        int before = answers;
+        try {
+            method.setAccessible(true);
+            method.invoke(null);
+        } catch (InvocationTargetException e) {
+            tell("threw " + e.getCause());
+        } catch (IllegalAccessException e) {
+            tell("could not be run: " + e);
+        }
+        if (answers == before) {
+            tell("asked for nothing");
+        }
     }
 
     void equal(String what, long got, long want) {
-        calls++;
+        answers++;
         if (got != want) {
             tell(what + " answered " + got + ", due is " + want);
         }
@@ -19,8 +63,15 @@ final class Due {
         equal(what, got ? 1 : 0, want ? 1 : 0);
     }
 
+    void equal(String what, String got, String want) {
+        answers++;
+        if (!got.equals(want)) {
+            tell(what + " gave\n  " + got + "\ndue is\n  " + want);
+        }
+    }
+
     void fails(String what, Class<? extends RuntimeException> want, Runnable call) {
-        calls++;
+        answers++;
         try {
             call.run();
         } catch (RuntimeException e) {
@@ -37,8 +88,9 @@ final class Due {
     }
 
     void end() {
-        System.out.println(test + ": " + calls + " answers, " + wrong + " not as due");
-        if (wrong != 0) {
+        System.out.println(file + ": " + (tests > 0 ? tests + " tests, " : "") + answers + " answers, "
+                + wrong + " not as due");
+        if (wrong != 0 || answers == 0) {
             System.exit(1);
         }
     }

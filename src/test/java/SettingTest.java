@@ -1,391 +1,635 @@
-import java.util.NoSuchElementException;
-
-/** Promises 1 to 9, 22 and 23: what calls set, and how it can be seen. */
+/** Promises 1 to 5, 8, 9 and 22: a new object, and what calls set. A test for each sentence that names a boundary. */
 final class SettingTest {
-    private static final Class<IllegalArgumentException> ARGUMENT = IllegalArgumentException.class;
-    private static final Class<NoSuchElementException> ELEMENT = NoSuchElementException.class;
-    private static final Class<IllegalStateException> STATE = IllegalStateException.class;
-    private static final int MIN = Integer.MIN_VALUE;
-    private static final int MAX = Integer.MAX_VALUE;
-
     private static final Due due = new Due("SettingTest");
 
     public static void main(String[] args) {
-        newObject();
-        zone();
-        zoneThrows();
-        flight();
-        flightThrows();
-        drop();
-        move();
-        rule();
-        limit();
-        crew();
-        off();
-        emptiesPairings();
-        look();
-        due.end();
+        due.runAll(SettingTest.class);
     }
 
-    private static void newObject() {
+    /** "No flights" */
+    private static void promise01HasNoFlights() {
         CrewOffice x = new CrewOffice();
-        int[] looks = {0, 0, 0, -1, -1, 0};
-        for (int what = 0; what < looks.length; what++) {
-            due.equal("look(" + what + ") of a new object", x.look(what), looks[what]);
+        due.equal("look(0)", x.look(0), 0);
+        for (int flight = 0; flight < 12; flight++) {
+            due.equal("move(" + flight + ", 0)", x.move(flight, 0), false);
+            due.equal("drop(" + flight + ")", x.drop(flight), false);
         }
-        due.equal("clear() of a new object", x.clear(), 0);
-        due.equal("cover() of a new object", x.cover(), -1);
-        due.fails("award() of a new object", STATE, x::award);
-        due.fails("check(-1) of a new object", ELEMENT, () -> x.check(-1));
-        due.fails("span(0) of a new object", ELEMENT, () -> x.span(0));
-        due.fails("pairing(0, 0) of a new object", ELEMENT, () -> x.pairing(0, 0));
-        due.fails("covers(0) of a new object", ELEMENT, () -> x.covers(0));
-        due.fails("owner(0) of a new object", ELEMENT, () -> x.owner(0));
+    }
+
+    /** "No .. crews" */
+    private static void promise01HasNoCrews() {
+        CrewOffice x = new CrewOffice();
+        x.flight(0, 0, 1, 100, 200, 0);
+        x.chain(0);
+        due.equal("look(1)", x.look(1), 0);
         for (int k = 0; k < 4; k++) {
             int crew = k;
-            due.fails("score of a crew that is not there", ELEMENT, () -> x.score(crew));
+            due.fails("check(" + crew + ")", Due.ELEMENT, () -> x.check(crew));
+            due.fails("off(" + crew + ", ..)", Due.ELEMENT, () -> x.off(crew, 0, 0));
+            due.fails("bid(" + crew + ", ..)", Due.ELEMENT, () -> x.bid(crew, 0, 0, 0));
+            due.fails("score(" + crew + ")", Due.ELEMENT, () -> x.score(crew));
         }
-        for (int k = 0; k < 12; k++) {
-            due.equal("drop of a flight that is not there", x.drop(k), false);
-        }
-        for (int k = 0; k < 5; k++) {
-            due.equal("local at first", x.local(k, 0), 0);
-            due.equal("local at first", x.local(k, 20160), 20160);
+        due.equal("check(-1) from no crew's base", x.check(-1), 1);
+    }
+
+    /** "No .. bids" */
+    private static void promise01HasNoBids() {
+        CrewOffice x = new CrewOffice();
+        for (int crew = 0; crew < 4; crew++) {
+            x.crew(crew, 0, 0, 7, 0);
+            due.equal("score(" + crew + ")", x.score(crew), 0);
+            due.equal("a first bid of " + crew, x.bid(crew, 2, 0, 1), 1);
         }
     }
 
-    private static void zone() {
+    /** "an empty chain" */
+    private static void promise01HasAnEmptyChain() {
+        CrewOffice x = new CrewOffice();
+        due.equal("look(2)", x.look(2), 0);
+        due.equal("clear()", x.clear(), 0);
+        due.fails("check(-1)", Due.ELEMENT, () -> x.check(-1));
+        due.fails("span(0)", Due.ELEMENT, () -> x.span(0));
+        due.equal("a first flight of it", x.chain(0), 1);
+    }
+
+    /** "nothing listed" */
+    private static void promise01HasNothingListed() {
+        CrewOffice x = new CrewOffice();
+        due.equal("look(3)", x.look(3), -1);
+        due.equal("look(4)", x.look(4), -1);
+        due.equal("look(5)", x.look(5), 0);
+        due.fails("pairing(0, 0)", Due.ELEMENT, () -> x.pairing(0, 0));
+        due.fails("covers(0)", Due.ELEMENT, () -> x.covers(0));
+        due.fails("owner(0)", Due.ELEMENT, () -> x.owner(0));
+        due.fails("award()", Due.STATE, x::award);
+        due.equal("cover()", x.cover(), -1);
+    }
+
+    /** Terms: "(0, 20160, 0 at first)" */
+    private static void promise01HasClocksWithoutOffsets() {
+        CrewOffice x = new CrewOffice();
+        for (int station = 0; station < 5; station++) {
+            for (int minute : new int[] {0, 1, 10000, 20159, 20160}) {
+                due.equal("local(" + station + ", " + minute + ")", x.local(station, minute), minute);
+            }
+        }
+    }
+
+    /** Each object is a new one: what was set in another one is not seen. */
+    private static void promise01IsNotAsAnotherObject() {
+        String before = Picture.of(new CrewOffice());
+        CrewOffice other = Scene.busy();
+        int[] values = {0, 0, 180, 120, 900, 1, 1, 60, 0, 0, 0};
+        for (int n = 0; n < values.length; n++) {
+            other.rule(n, values[n]);
+        }
+        other.limit(0, 2, 60);
+        CrewOffice x = new CrewOffice();
+        due.equal("a new object beside a busy one", Picture.of(x), before);
+        CrewOffice two = Scene.twoFlights(100, 200, 499, 730);
+        due.equal("check(0) by the rules at first", two.check(0), 0);
+    }
+
+    /** "A station's offsets and when they change": "from a minute CHANGE on another one" */
+    private static void promise02ChangesAtItsMinute() {
+        CrewOffice x = new CrewOffice();
+        x.zone(2, -60, 1000, 90);
+        due.equal("local at 0", x.local(2, 0), -60);
+        due.equal("local right before the change", x.local(2, 999), 939);
+        due.equal("local at the change", x.local(2, 1000), 1090);
+        due.equal("local right behind the change", x.local(2, 1001), 1091);
+        due.equal("local at the end", x.local(2, 20160), 20250);
+    }
+
+    private static void promise02SetsOneStationAlone() {
+        for (int station = 0; station < 5; station++) {
+            CrewOffice x = new CrewOffice();
+            x.zone(station, 10, 500, 20);
+            for (int other = 0; other < 5; other++) {
+                due.equal("local of " + other, x.local(other, 499), other == station ? 509 : 499);
+                due.equal("local of " + other, x.local(other, 500), other == station ? 520 : 500);
+            }
+        }
+    }
+
+    private static void promise02TakesThePlaceOfAnother() {
         CrewOffice x = new CrewOffice();
         x.zone(2, -720, 1000, 720);
-        due.equal("local before the change", x.local(2, 0), -720);
-        due.equal("local right before the change", x.local(2, 999), 279);
-        due.equal("local at the change", x.local(2, 1000), 1720);
-        due.equal("local behind the change", x.local(2, 20160), 20880);
-        due.equal("local of another station", x.local(1, 1000), 1000);
-        x.zone(4, 30, 0, -15);
-        due.equal("local, changed from 0 on", x.local(4, 0), -15);
+        x.zone(2, 1, 5, 2);
+        due.equal("local before the new change", x.local(2, 4), 5);
+        due.equal("local at the new change", x.local(2, 5), 7);
+        due.equal("local at the old change", x.local(2, 1000), 1002);
+    }
+
+    /** "Throws .. when there is no such station" */
+    private static void promise02RefusesAStation() {
+        CrewOffice x = new CrewOffice();
+        for (int station : Scene.outside(0, 4)) {
+            due.fails("zone(" + station + ", ..)", Due.ARGUMENT, () -> x.zone(station, 0, 20160, 0));
+        }
+    }
+
+    /** "an offset is not -720 .. 720": the first one */
+    private static void promise02RefusesAFirstOffset() {
+        CrewOffice x = new CrewOffice();
+        for (int offset : Scene.outside(-720, 720)) {
+            due.fails("zone(0, " + offset + ", ..)", Due.ARGUMENT, () -> x.zone(0, offset, 20160, 0));
+        }
+        x.zone(0, -720, 20160, 0);
+        due.equal("local by -720", x.local(0, 0), -720);
+        x.zone(0, 720, 20160, 0);
+        due.equal("local by 720", x.local(0, 0), 720);
+    }
+
+    /** "an offset is not -720 .. 720": the second one */
+    private static void promise02RefusesASecondOffset() {
+        CrewOffice x = new CrewOffice();
+        for (int offset : Scene.outside(-720, 720)) {
+            due.fails("zone(0, .., " + offset + ")", Due.ARGUMENT, () -> x.zone(0, 0, 20160, offset));
+        }
+        x.zone(0, 0, 20160, -720);
+        due.equal("local by -720", x.local(0, 20160), 19440);
+        x.zone(0, 0, 20160, 720);
+        due.equal("local by 720", x.local(0, 20160), 20880);
+    }
+
+    /** "or change not 0 .. 20160" */
+    private static void promise02RefusesAChange() {
+        CrewOffice x = new CrewOffice();
+        for (int change : Scene.outside(0, 20160)) {
+            due.fails("zone(0, 0, " + change + ", 0)", Due.ARGUMENT, () -> x.zone(0, 0, change, 0));
+        }
+        x.zone(0, 30, 0, -15);
+        due.equal("local at 0, changed from 0 on", x.local(0, 0), -15);
         x.zone(0, 30, 20160, -15);
         due.equal("local before the last minute", x.local(0, 20159), 20189);
         due.equal("local at the last minute", x.local(0, 20160), 20145);
-        x.zone(2, 1, 5, 2);
-        due.equal("local, set again", x.local(2, 4), 5);
-        due.equal("local, set again", x.local(2, 5), 7);
-        for (int station : new int[] {-1, 5, MIN, MAX}) {
-            due.fails("local(" + station + ", 0)", ARGUMENT, () -> x.local(station, 0));
-        }
-        for (int minute : new int[] {-1, 20161, MIN, MAX}) {
-            due.fails("local(0, " + minute + ")", ARGUMENT, () -> x.local(0, minute));
-        }
     }
 
-    private static void zoneThrows() {
+    /** "A flight is there": the first and the last number */
+    private static void promise03IsThere() {
         CrewOffice x = new CrewOffice();
-        x.pairings();
-        for (int station : new int[] {-1, 5, MIN, MAX}) {
-            due.fails("zone(" + station + ", ..)", ARGUMENT, () -> x.zone(station, 1, 1, 1));
-        }
-        for (int offset : new int[] {-721, 721, MIN, MAX}) {
-            due.fails("zone(0, " + offset + ", 0, 0)", ARGUMENT, () -> x.zone(0, offset, 1, 1));
-            due.fails("zone(0, 0, 0, " + offset + ")", ARGUMENT, () -> x.zone(0, 1, 1, offset));
-        }
-        for (int change : new int[] {-1, 20161, MIN, MAX}) {
-            due.fails("zone(0, 0, " + change + ", 0)", ARGUMENT, () -> x.zone(0, 1, change, 1));
-        }
-        due.equal("local when zone threw", x.local(0, 100), 100);
-        due.equal("look(3) when zone threw", x.look(3), 0);
-        x.zone(0, 720, 0, -720);
-        x.zone(4, -720, 20160, 720);
-        due.equal("look(3) behind a zone", x.look(3), -1);
-    }
-
-    private static void flight() {
-        CrewOffice x = new CrewOffice();
-        x.flight(0, 0, 1, 0, 900, 2);
-        x.flight(11, 4, 3, 20159, 20160, 0);
+        x.flight(0, 0, 4, 100, 200, 0);
+        due.equal("look(0)", x.look(0), 1);
+        x.flight(11, 4, 0, 100, 200, 2);
         due.equal("look(0)", x.look(0), 2);
-        x.flight(11, 3, 4, 20000, 20160, 1);
-        due.equal("look(0), a flight in place of another one", x.look(0), 2);
-        x.chain(11);
-        due.equal("its beginning", x.span(0), 19940);
-        due.equal("its end", x.span(1), 20190);
-        due.equal("its minutes in the air", x.span(3), 160);
-        x.clear();
-        x.chain(0);
-        due.equal("a beginning before 0", x.span(0), -60);
-        due.equal("an end", x.span(1), 930);
+        for (int flight = 1; flight < 11; flight++) {
+            x.flight(flight, 1, 2, flight, 20 + flight, 1);
+        }
+        due.equal("look(0), all", x.look(0), 12);
+        Scene.chain(x, 10);
+        due.equal("span(0) of flight 10", x.span(0), -50);
+        Scene.chain(x, 11);
+        due.equal("span(0) of flight 11", x.span(0), 40);
     }
 
-    private static void flightThrows() {
+    /** "in place of another one": both stations, both times and the type are the new ones */
+    private static void promise03TakesThePlaceOfAnother() {
+        CrewOffice x = Scene.twoFlights(100, 200, 300, 400);
+        x.crew(0, 2, 5, 4, 0);
+        x.flight(0, 2, 3, 1000, 1110, 2);
+        x.flight(1, 3, 2, 1200, 1330, 2);
+        due.equal("look(0)", x.look(0), 2);
+        due.equal("check(0), types and stations", x.check(0), 0);
+        due.equal("span(0)", x.span(0), 940);
+        due.equal("span(1)", x.span(1), 1360);
+        due.equal("span(3)", x.span(3), 240);
+        x.flight(1, 3, 2, 1200, 1330, 1);
+        due.equal("check(0), another type", x.check(0), 10);
+        x.flight(1, 3, 1, 1200, 1330, 2);
+        due.equal("check(0), to another station", x.check(0), 8);
+        x.flight(1, 1, 2, 1200, 1330, 2);
+        due.equal("check(0), from another station", x.check(0), 2);
+    }
+
+    /** "Throws .. when there is no such flight" */
+    private static void promise03RefusesAFlight() {
+        CrewOffice x = new CrewOffice();
+        for (int flight : Scene.outside(0, 11)) {
+            due.fails("flight(" + flight + ", ..)", Due.ARGUMENT, () -> x.flight(flight, 0, 1, 100, 200, 0));
+        }
+        due.equal("look(0)", x.look(0), 0);
+    }
+
+    /** "no such .. station": from which it departs */
+    private static void promise03RefusesAStationFrom() {
+        CrewOffice x = new CrewOffice();
+        for (int station : Scene.outside(0, 4)) {
+            due.fails("flight from " + station, Due.ARGUMENT, () -> x.flight(0, station, 1, 100, 200, 0));
+        }
+        due.equal("look(0)", x.look(0), 0);
+        x.flight(0, 0, 1, 100, 200, 0);
+        x.flight(1, 4, 1, 100, 200, 0);
+        due.equal("look(0), from 0 and from 4", x.look(0), 2);
+    }
+
+    /** "no such .. station": at which it arrives */
+    private static void promise03RefusesAStationTo() {
+        CrewOffice x = new CrewOffice();
+        for (int station : Scene.outside(0, 4)) {
+            due.fails("flight to " + station, Due.ARGUMENT, () -> x.flight(0, 1, station, 100, 200, 0));
+        }
+        due.equal("look(0)", x.look(0), 0);
+        x.flight(0, 1, 0, 100, 200, 0);
+        x.flight(1, 1, 4, 100, 200, 0);
+        due.equal("look(0), to 0 and to 4", x.look(0), 2);
+    }
+
+    /** "no such .. type" */
+    private static void promise03RefusesAType() {
+        CrewOffice x = new CrewOffice();
+        for (int type : Scene.outside(0, 2)) {
+            due.fails("flight of type " + type, Due.ARGUMENT, () -> x.flight(0, 0, 1, 100, 200, type));
+        }
+        due.equal("look(0)", x.look(0), 0);
+        for (int type = 0; type < 3; type++) {
+            x.flight(type, 0, 1, 100, 200, type);
+        }
+        due.equal("look(0), of each type", x.look(0), 3);
+    }
+
+    /** "both stations are the same" */
+    private static void promise03RefusesToArriveWhereItDeparts() {
+        CrewOffice x = new CrewOffice();
+        for (int k = 0; k < 5; k++) {
+            int station = k;
+            due.fails("flight from " + k + " to " + k, Due.ARGUMENT, () -> x.flight(0, station, station, 1, 2, 0));
+        }
+        due.equal("look(0)", x.look(0), 0);
+    }
+
+    /** "departs is below 0" */
+    private static void promise03RefusesToDepartBelow0() {
+        CrewOffice x = new CrewOffice();
+        due.fails("departs -1", Due.ARGUMENT, () -> x.flight(0, 0, 1, -1, 50, 0));
+        due.fails("departs -100, arrives -50", Due.ARGUMENT, () -> x.flight(0, 0, 1, -100, -50, 0));
+        due.fails("departs MIN", Due.ARGUMENT, () -> x.flight(0, 0, 1, Scene.MIN, 50, 0));
+        x.flight(0, 0, 1, 0, 50, 0);
+        x.chain(0);
+        due.equal("its beginning when it departs 0", x.span(0), -60);
+    }
+
+    /** "arrives not behind it" */
+    private static void promise03RefusesToArriveBeforeItDeparts() {
+        CrewOffice x = new CrewOffice();
+        due.fails("arrives when it departs", Due.ARGUMENT, () -> x.flight(0, 0, 1, 7, 7, 0));
+        due.fails("arrives before it departs", Due.ARGUMENT, () -> x.flight(0, 0, 1, 7, 6, 0));
+        due.fails("arrives MIN", Due.ARGUMENT, () -> x.flight(0, 0, 1, 7, Scene.MIN, 0));
+        due.fails("departs MAX, arrives MIN", Due.ARGUMENT, () -> x.flight(0, 0, 1, Scene.MAX, Scene.MIN, 0));
+        due.fails("departs MAX", Due.ARGUMENT, () -> x.flight(0, 0, 1, Scene.MAX, 20160, 0));
+        due.fails("both 20160", Due.ARGUMENT, () -> x.flight(0, 0, 1, 20160, 20160, 0));
+        due.fails("both 0", Due.ARGUMENT, () -> x.flight(0, 0, 1, 0, 0, 0));
+        x.flight(0, 0, 1, 7, 8, 0);
+        x.chain(0);
+        due.equal("a minute in the air", x.span(3), 1);
+    }
+
+    /** "above 20160" */
+    private static void promise03RefusesToArriveAbove20160() {
+        CrewOffice x = new CrewOffice();
+        due.fails("arrives 20161", Due.ARGUMENT, () -> x.flight(0, 0, 1, 20000, 20161, 0));
+        due.fails("20160 to 20161", Due.ARGUMENT, () -> x.flight(0, 0, 1, 20160, 20161, 0));
+        due.fails("arrives MAX", Due.ARGUMENT, () -> x.flight(0, 0, 1, Scene.MAX - 1, Scene.MAX, 0));
+        x.flight(0, 0, 1, 20159, 20160, 0);
+        x.chain(0);
+        due.equal("its end when it arrives 20160", x.span(1), 20190);
+    }
+
+    /** "or more than 900 later" */
+    private static void promise03RefusesMoreThan900Minutes() {
+        CrewOffice x = new CrewOffice();
+        due.fails("901 minutes", Due.ARGUMENT, () -> x.flight(0, 0, 1, 7, 908, 0));
+        due.fails("20160 minutes", Due.ARGUMENT, () -> x.flight(0, 0, 1, 0, 20160, 0));
+        due.fails("MIN to MAX", Due.ARGUMENT, () -> x.flight(0, 0, 1, Scene.MIN, Scene.MAX, 0));
+        x.flight(0, 0, 1, 7, 907, 0);
+        x.chain(0);
+        due.equal("900 minutes", x.span(3), 900);
+    }
+
+    /** "A flight is there no more: whether it was." */
+    private static void promise04TellsWhetherItWas() {
         CrewOffice x = new CrewOffice();
         x.flight(0, 0, 1, 100, 200, 0);
-        x.chain(0);
-        x.pairings();
-        for (int bad : new int[] {-1, 12, MIN, MAX}) {
-            due.fails("flight(" + bad + ", ..)", ARGUMENT, () -> x.flight(bad, 0, 1, 1, 2, 0));
-        }
-        for (int bad : new int[] {-1, 5, MIN, MAX}) {
-            due.fails("flight from " + bad, ARGUMENT, () -> x.flight(0, bad, 1, 1, 2, 0));
-            due.fails("flight to " + bad, ARGUMENT, () -> x.flight(0, 0, bad, 1, 2, 0));
-        }
-        for (int bad : new int[] {-1, 3, MIN, MAX}) {
-            due.fails("flight of type " + bad, ARGUMENT, () -> x.flight(0, 0, 1, 1, 2, bad));
-        }
-        due.fails("flight to where it departs", ARGUMENT, () -> x.flight(0, 3, 3, 1, 2, 0));
-        due.fails("flight departs at -1", ARGUMENT, () -> x.flight(0, 0, 1, -1, 2, 0));
-        due.fails("flight departs at MIN", ARGUMENT, () -> x.flight(0, 0, 1, MIN, 2, 0));
-        due.fails("flight departs at MAX", ARGUMENT, () -> x.flight(0, 0, 1, MAX, 2, 0));
-        due.fails("flight from MIN to MAX", ARGUMENT, () -> x.flight(0, 0, 1, MIN, MAX, 0));
-        due.fails("flight arrives when it departs", ARGUMENT, () -> x.flight(0, 0, 1, 7, 7, 0));
-        due.fails("flight arrives before it departs", ARGUMENT, () -> x.flight(0, 0, 1, 7, 6, 0));
-        due.fails("flight arrives at 20161", ARGUMENT, () -> x.flight(0, 0, 1, 20000, 20161, 0));
-        due.fails("flight arrives at MAX", ARGUMENT, () -> x.flight(0, 0, 1, 20000, MAX, 0));
-        due.fails("flight of 901 minutes", ARGUMENT, () -> x.flight(0, 0, 1, 7, 908, 0));
-        due.equal("beginning when flight threw", x.span(0), 40);
-        due.equal("minutes in the air when flight threw", x.span(3), 100);
-        due.equal("look(0) when flight threw", x.look(0), 1);
-        due.equal("look(3) when flight threw", x.look(3), 0);
-    }
-
-    private static void drop() {
-        CrewOffice x = new CrewOffice();
         x.flight(11, 0, 1, 100, 200, 0);
-        x.flight(3, 0, 1, 100, 200, 0);
-        due.equal("drop(0), not there", x.drop(0), false);
+        due.equal("drop(3), never there", x.drop(3), false);
+        due.equal("look(0)", x.look(0), 2);
         due.equal("drop(11)", x.drop(11), true);
+        due.equal("look(0)", x.look(0), 1);
         due.equal("drop(11) again", x.drop(11), false);
-        due.equal("look(0)", x.look(0), 1);
-        for (int bad : new int[] {-1, 12, MIN, MAX}) {
-            due.fails("drop(" + bad + ")", ARGUMENT, () -> x.drop(bad));
-        }
+        due.equal("move(11, 1), dropped", x.move(11, 1), false);
+        due.equal("drop(0)", x.drop(0), true);
+        due.equal("look(0), none left", x.look(0), 0);
         x.flight(11, 0, 1, 100, 200, 0);
-        due.equal("look(0), there again", x.look(0), 2);
+        due.equal("drop(11), there again", x.drop(11), true);
     }
 
-    private static void move() {
+    private static void promise04LeavesTheOthers() {
         CrewOffice x = new CrewOffice();
-        x.flight(5, 0, 1, 100, 200, 0);
-        x.chain(5);
-        due.equal("move(5, 10)", x.move(5, 10), true);
-        due.equal("its beginning", x.span(0), 50);
-        due.equal("its end", x.span(1), 240);
-        due.equal("its air", x.span(3), 100);
-        due.equal("move below 0", x.move(5, -111), false);
-        due.equal("beginning, not moved", x.span(0), 50);
-        due.equal("move to 0", x.move(5, -110), true);
-        due.equal("beginning, moved to 0", x.span(0), -60);
-        due.equal("move above 20160", x.move(5, 20061), false);
-        due.equal("move to 20160", x.move(5, 20060), true);
-        due.equal("end, moved to 20160", x.span(1), 20190);
-        due.equal("move by MAX", x.move(5, MAX), false);
-        due.equal("move by MIN", x.move(5, MIN), false);
-        due.equal("move by nothing", x.move(5, 0), true);
-        due.equal("end, not moved", x.span(1), 20190);
-        due.equal("move of no flight", x.move(4, 1), false);
-        due.equal("move of no flight by nothing", x.move(4, 0), false);
-        due.equal("look(0)", x.look(0), 1);
-        for (int bad : new int[] {-1, 12, MIN, MAX}) {
-            due.fails("move(" + bad + ", 0)", ARGUMENT, () -> x.move(bad, 0));
+        for (int flight = 0; flight < 12; flight++) {
+            x.flight(flight, 0, 1, 100 + flight, 200, 0);
+        }
+        due.equal("drop(5)", x.drop(5), true);
+        for (int flight = 0; flight < 12; flight++) {
+            due.equal("move(" + flight + ", 0)", x.move(flight, 0), flight != 5);
         }
     }
 
-    private static void rule() {
-        int[] least = {0, 0, 0, 120, 0, 1, 1, 60, 0, 0, 0};
-        int[] most = {120, 120, 180, 900, 900, 8, 8, 20160, 10000, 1, 20000};
+    /** "Throws .. when it is not 0 .. 11." */
+    private static void promise04RefusesAFlight() {
         CrewOffice x = new CrewOffice();
-        x.pairings();
-        for (int k = 0; k < least.length; k++) {
-            int n = k;
-            due.fails("rule " + n + " below", ARGUMENT, () -> x.rule(n, least[n] - 1));
-            due.fails("rule " + n + " above", ARGUMENT, () -> x.rule(n, most[n] + 1));
-            due.fails("rule " + n + " MIN", ARGUMENT, () -> x.rule(n, MIN));
-            due.fails("rule " + n + " MAX", ARGUMENT, () -> x.rule(n, MAX));
+        for (int flight : Scene.outside(0, 11)) {
+            due.fails("drop(" + flight + ")", Due.ARGUMENT, () -> x.drop(flight));
         }
-        for (int bad : new int[] {-1, 11, MIN, MAX}) {
-            due.fails("rule(" + bad + ", 1)", ARGUMENT, () -> x.rule(bad, 1));
-        }
-        due.equal("look(3) when rule threw", x.look(3), 0);
-        for (int n = 0; n < least.length; n++) {
-            x.rule(n, least[n]);
-            x.rule(n, most[n]);
-        }
-        due.equal("look(3) behind a rule", x.look(3), -1);
-        x.flight(0, 0, 1, 500, 600, 0);
-        x.chain(0);
-        due.equal("beginning by REPORT 120", x.span(0), 380);
-        due.equal("end by RELEASE 120", x.span(1), 720);
-        x.rule(0, 0);
-        x.rule(1, 1);
-        due.equal("beginning by REPORT 0", x.span(0), 500);
-        due.equal("end by RELEASE 1", x.span(1), 601);
     }
 
-    private static void limit() {
-        CrewOffice x = new CrewOffice();
-        x.pairings();
-        for (int bad : new int[] {-1, 4, MIN, MAX}) {
-            due.fails("limit of band " + bad, ARGUMENT, () -> x.limit(bad, 1, 60));
-        }
-        for (int bad : new int[] {0, 5, -1, MIN, MAX}) {
-            due.fails("limit of legs " + bad, ARGUMENT, () -> x.limit(0, bad, 60));
-        }
-        for (int bad : new int[] {59, 1441, -1, MIN, MAX}) {
-            due.fails("limit of minutes " + bad, ARGUMENT, () -> x.limit(0, 1, bad));
-        }
-        due.equal("look(3) when limit threw", x.look(3), 0);
-        for (int band = 0; band < 4; band++) {
-            for (int legs = 1; legs <= 4; legs++) {
-                x.limit(band, legs, 60);
-                x.limit(band, legs, 1440);
-            }
-        }
-        due.equal("look(3) behind a limit", x.look(3), -1);
+    /** "A flight departs and arrives so many minutes later (or, below 0, earlier): true" */
+    private static void promise05MovesBothTimes() {
+        CrewOffice x = Scene.twoFlights(100, 200, 300, 410);
+        due.equal("move(1, 10)", x.move(1, 10), true);
+        due.equal("its end", x.span(1), 450);
+        due.equal("minutes in the air", x.span(3), 210);
+        due.equal("move(0, -30)", x.move(0, -30), true);
+        due.equal("its beginning", x.span(0), 10);
+        due.equal("minutes in the air", x.span(3), 210);
+        due.equal("move(0, 0)", x.move(0, 0), true);
+        due.equal("its beginning", x.span(0), 10);
+        due.equal("check(0), stations and types as before", x.check(0), 0);
+        due.equal("look(0)", x.look(0), 2);
     }
 
-    private static void crew() {
+    /** "false, and nothing changes, when it is not there" */
+    private static void promise05IsFalseForNoFlight() {
+        CrewOffice x = Scene.twoFlights(100, 200, 300, 400);
+        due.equal("move(4, 1)", x.move(4, 1), false);
+        due.equal("move(4, 0)", x.move(4, 0), false);
+        due.equal("look(0)", x.look(0), 2);
+        due.equal("drop(1)", x.drop(1), true);
+        due.equal("move(1, 1), dropped", x.move(1, 1), false);
+        x.flight(1, 1, 0, 300, 400, 0);
+        due.equal("its end, not moved", x.span(1), 430);
+    }
+
+    /** "or would leave its bounds": below 0 */
+    private static void promise05IsFalseBelow0() {
+        CrewOffice x = Scene.twoFlights(100, 200, 300, 400);
+        due.equal("move(0, -101)", x.move(0, -101), false);
+        due.equal("its beginning, not moved", x.span(0), 40);
+        due.equal("move(0, MIN)", x.move(0, Scene.MIN), false);
+        due.equal("its beginning, not moved", x.span(0), 40);
+        due.equal("move(0, -100)", x.move(0, -100), true);
+        due.equal("its beginning, departs 0", x.span(0), -60);
+        due.equal("minutes in the air", x.span(3), 200);
+        due.equal("move(0, -1)", x.move(0, -1), false);
+    }
+
+    /** "or would leave its bounds": above 20160 */
+    private static void promise05IsFalseAbove20160() {
+        CrewOffice x = Scene.twoFlights(100, 200, 300, 400);
+        due.equal("move(1, 19761)", x.move(1, 19761), false);
+        due.equal("its end, not moved", x.span(1), 430);
+        due.equal("move(1, MAX)", x.move(1, Scene.MAX), false);
+        due.equal("its end, not moved", x.span(1), 430);
+        due.equal("move(1, MAX - 300)", x.move(1, Scene.MAX - 300), false);
+        due.equal("move(1, 19760)", x.move(1, 19760), true);
+        due.equal("its end, arrives 20160", x.span(1), 20190);
+        due.equal("minutes in the air", x.span(3), 200);
+        due.equal("move(1, 1)", x.move(1, 1), false);
+    }
+
+    /** "Throws .. when it is not 0 .. 11." */
+    private static void promise05RefusesAFlight() {
         CrewOffice x = new CrewOffice();
-        x.pairings();
-        for (int bad : new int[] {-1, 4, MIN, MAX}) {
-            due.fails("crew(" + bad + ", ..)", ARGUMENT, () -> x.crew(bad, 0, 0, 0, 0));
+        for (int flight : Scene.outside(0, 11)) {
+            due.fails("move(" + flight + ", 0)", Due.ARGUMENT, () -> x.move(flight, 0));
         }
-        for (int bad : new int[] {-1, 5, MIN, MAX}) {
-            due.fails("crew of base " + bad, ARGUMENT, () -> x.crew(0, bad, 0, 0, 0));
-        }
-        for (int bad : new int[] {-1, 100, MIN, MAX}) {
-            due.fails("crew of rank " + bad, ARGUMENT, () -> x.crew(0, 0, bad, 0, 0));
-        }
-        for (int bad : new int[] {-1, 8, MIN, MAX}) {
-            due.fails("crew of types " + bad, ARGUMENT, () -> x.crew(0, 0, 0, bad, 0));
-        }
-        for (int bad : new int[] {-1, 20001, MIN, MAX}) {
-            due.fails("crew of flown " + bad, ARGUMENT, () -> x.crew(0, 0, 0, 0, bad));
-        }
-        due.equal("look(1) when crew threw", x.look(1), 0);
-        due.equal("look(3) when crew threw", x.look(3), 0);
+        x.flight(0, 0, 1, 100, 200, 0);
+        x.flight(11, 0, 1, 100, 200, 0);
+        due.equal("move(0, 5)", x.move(0, 5), true);
+        due.equal("move(11, 5)", x.move(11, 5), true);
+    }
+
+    /** "A crew is there": the first and the last number */
+    private static void promise08IsThere() {
+        CrewOffice x = new CrewOffice();
         x.crew(0, 0, 0, 0, 0);
+        due.equal("look(1)", x.look(1), 1);
         x.crew(3, 4, 99, 7, 20000);
-        x.crew(3, 2, 99, 7, 20000);
         due.equal("look(1)", x.look(1), 2);
-        due.equal("look(3) behind a crew", x.look(3), -1);
-        replacedCrew();
+        due.equal("score(3)", x.score(3), 0);
+        due.fails("score(1), not there", Due.ELEMENT, () -> x.score(1));
+        due.fails("score(2), not there", Due.ELEMENT, () -> x.score(2));
     }
 
-    private static void replacedCrew() {
-        CrewOffice x = new CrewOffice();
-        x.crew(0, 0, 5, 1, 0);
-        x.flight(0, 0, 1, 100, 200, 0);
-        x.flight(1, 1, 0, 300, 400, 0);
-        x.chain(0);
-        x.chain(1);
-        x.off(0, 300, 301);
-        due.equal("bid", x.bid(0, 2, 5, 7), 1);
-        due.equal("score by the bid", x.score(0), 7);
-        due.equal("check with a time off", x.check(0), 11);
-        x.crew(0, 0, 5, 1, 0);
-        due.equal("check without a time off", x.check(0), 0);
-        due.equal("score without bids", x.score(0), 0);
-        due.equal("a first bid again", x.bid(0, 2, 5, 7), 1);
-        x.crew(0, 1, 5, 1, 0);
-        due.equal("check with another base", x.check(0), 1);
+    /** "in place of another one": base, types and minutes flown are the new ones */
+    private static void promise08TakesThePlaceOfAnother() {
+        CrewOffice x = Scene.twoFlights(100, 200, 300, 400);
+        due.equal("check(0)", x.check(0), 0);
+        x.crew(0, 1, 5, 7, 0);
+        due.equal("look(1)", x.look(1), 1);
+        due.equal("check(0), another base", x.check(0), 1);
+        due.equal("check(-1), nobody at that base any more", x.check(-1), 1);
         x.crew(0, 0, 5, 6, 0);
-        due.equal("check with other types", x.check(0), 10);
+        due.equal("check(0), other types", x.check(0), 10);
         x.crew(0, 0, 5, 1, 5801);
-        due.equal("check with more flown", x.check(0), 12);
+        due.equal("check(0), a minute too many flown", x.check(0), 12);
         x.crew(0, 0, 5, 1, 5800);
-        due.equal("check with just enough left", x.check(0), 0);
+        due.equal("check(0), just enough left", x.check(0), 0);
     }
 
-    private static void off() {
-        CrewOffice x = new CrewOffice();
-        for (int bad : new int[] {-1, 4, MIN, MAX}) {
-            due.fails("off(" + bad + ", ..)", ARGUMENT, () -> x.off(bad, 0, 0));
+    /** "in place of another one": the rank is the new one */
+    private static void promise08TakesThePlaceWithItsRank() {
+        CrewOffice x = Scene.twoFlights(100, 200, 300, 400);
+        x.crew(1, 0, 99, 7, 0);
+        for (int rank : new int[] {0, 99}) {
+            x.crew(0, 0, 99 - rank, 7, 0);
+            x.crew(1, 0, rank, 7, 0);
+            x.pairings();
+            x.cover();
+            x.award();
+            due.equal("owner(0), crew 1 of rank " + rank, x.owner(0), rank == 99 ? 1 : 0);
         }
-        due.fails("off of a crew that is not there", ELEMENT, () -> x.off(1, 0, 0));
-        for (int bad : new int[] {-1, 20161, MIN, MAX}) {
-            due.fails("off from " + bad + " of no crew", ARGUMENT, () -> x.off(1, bad, 0));
-            due.fails("off to " + bad + " of no crew", ARGUMENT, () -> x.off(1, 0, bad));
-        }
+    }
+
+    /** "without a time off" */
+    private static void promise08HasNoTimeOff() {
+        CrewOffice x = Scene.twoFlights(100, 200, 300, 400);
         x.crew(1, 0, 5, 7, 0);
-        x.flight(0, 0, 1, 100, 200, 0);
-        x.flight(1, 1, 0, 300, 400, 0);
-        x.chain(0);
-        x.chain(1);
-        int[][] spans = {
-            {0, 40, 0}, {0, 41, 11}, {40, 41, 11}, {429, 430, 11}, {430, 431, 0}, {429, 20160, 11}, {430, 20160, 0},
-            {100, 100, 0}, {200, 100, 0}, {0, 20160, 11}, {20160, 20160, 0}, {20160, 0, 0}, {240, 241, 11}};
-        for (int[] span : spans) {
-            x.off(1, span[0], span[1]);
-            due.equal("check, off from " + span[0] + " to " + span[1], x.check(1), span[2]);
-            due.equal("check for no crew", x.check(-1), 0);
-        }
-        x.pairings();
-        due.fails("off(1, 0, 20161)", ARGUMENT, () -> x.off(1, 0, 20161));
-        due.equal("check when off threw", x.check(1), 11);
-        due.equal("look(3) when off threw", x.look(3), 1);
-        x.off(1, 240, 241);
-        due.equal("look(3) behind an off", x.look(3), -1);
+        x.off(0, 300, 301);
+        x.off(1, 300, 301);
+        due.equal("check(0), off", x.check(0), 11);
+        x.crew(0, 0, 5, 7, 0);
+        due.equal("check(0), a new crew", x.check(0), 0);
+        due.equal("check(1), the other one as before", x.check(1), 11);
     }
 
-    private interface Call {
-        void on(CrewOffice x);
-    }
-
-    private static CrewOffice awarded() {
+    /** "and bids" */
+    private static void promise08HasNoBids() {
         CrewOffice x = new CrewOffice();
         x.crew(0, 0, 5, 7, 0);
-        x.flight(0, 0, 1, 100, 200, 0);
-        x.flight(1, 1, 0, 300, 400, 0);
-        due.equal("pairings()", x.pairings(), 1);
-        due.equal("cover()", x.cover(), 390);
-        due.equal("award()", x.award(), true);
-        due.equal("look(5)", x.look(5), 1);
-        return x;
-    }
-
-    private static void emptied(String what, boolean all, Call call) {
-        CrewOffice x = awarded();
-        call.on(x);
-        due.equal("look(3) behind " + what, x.look(3), all ? -1 : 1);
-        due.equal("look(4) behind " + what, x.look(4), all ? -1 : 1);
-        due.equal("look(5) behind " + what, x.look(5), all ? 0 : 1);
-        if (all) {
-            due.fails("owner(0) behind " + what, ELEMENT, () -> x.owner(0));
-            due.fails("award() behind " + what, STATE, x::award);
-            due.equal("cover() behind " + what, x.cover(), -1);
-        } else {
-            due.equal("owner(0) behind " + what, x.owner(0), 0);
+        x.crew(1, 0, 5, 7, 0);
+        for (int k = 0; k < 6; k++) {
+            x.bid(0, 2, 5, 7);
+            x.bid(1, 2, 5, 7);
         }
+        due.equal("score(0)", x.score(0), 42);
+        x.crew(0, 0, 5, 7, 0);
+        due.equal("score(0), a new crew", x.score(0), 0);
+        due.equal("score(1), the other one as before", x.score(1), 42);
+        due.equal("a first bid again", x.bid(0, 2, 5, 9), 1);
+        due.equal("score(0)", x.score(0), 9);
     }
 
-    private static void emptiesPairings() {
-        emptied("a zone as it was", true, x -> x.zone(0, 0, 20160, 0));
-        emptied("a flight as it was", true, x -> x.flight(0, 0, 1, 100, 200, 0));
-        emptied("a drop", true, x -> x.drop(0));
-        emptied("a drop of nothing", false, x -> x.drop(7));
-        emptied("a move by nothing", true, x -> x.move(0, 0));
-        emptied("a move out of bounds", false, x -> x.move(0, -101));
-        emptied("a move of nothing", false, x -> x.move(2, 0));
-        emptied("a rule as it was", true, x -> x.rule(0, 60));
-        emptied("a limit as it was", true, x -> x.limit(0, 1, 720));
-        emptied("a crew as it was", true, x -> x.crew(0, 0, 5, 7, 0));
-        emptied("a time off as it was", true, x -> x.off(0, 0, 0));
-        emptied("a wrong rule", false, x -> due.fails("a wrong rule", ARGUMENT, () -> x.rule(0, 121)));
-        emptied("a wrong off", false, x -> due.fails("a wrong off", ELEMENT, () -> x.off(1, 0, 0)));
-        emptied("a chain", false, x -> x.chain(0));
-        emptied("a clear", false, CrewOffice::clear);
-        emptied("a look", false, x -> x.look(5));
+    /** "Throws .. when there is no such crew" */
+    private static void promise08RefusesACrew() {
+        CrewOffice x = new CrewOffice();
+        for (int crew : Scene.outside(0, 3)) {
+            due.fails("crew(" + crew + ", ..)", Due.ARGUMENT, () -> x.crew(crew, 0, 0, 0, 0));
+        }
+        due.equal("look(1)", x.look(1), 0);
     }
 
-    private static void look() {
-        CrewOffice x = awarded();
+    /** "or base" */
+    private static void promise08RefusesABase() {
+        CrewOffice x = new CrewOffice();
+        for (int base : Scene.outside(0, 4)) {
+            due.fails("crew of base " + base, Due.ARGUMENT, () -> x.crew(0, base, 0, 0, 0));
+        }
+        due.equal("look(1)", x.look(1), 0);
+        x.crew(0, 4, 0, 7, 0);
+        x.flight(0, 4, 0, 100, 200, 0);
         x.chain(0);
-        x.chain(9);
-        x.chain(9);
-        int[] looks = {2, 1, 3, 1, 1, 1};
-        for (int what = 0; what < looks.length; what++) {
-            due.equal("look(" + what + ")", x.look(what), looks[what]);
+        due.equal("check(0) from 4", x.check(0), 8);
+    }
+
+    /** "rank is not 0 .. 99" */
+    private static void promise08RefusesARank() {
+        CrewOffice x = new CrewOffice();
+        for (int rank : Scene.outside(0, 99)) {
+            due.fails("crew of rank " + rank, Due.ARGUMENT, () -> x.crew(0, 0, rank, 0, 0));
         }
-        for (int bad : new int[] {-1, 6, MIN, MAX}) {
-            due.fails("look(" + bad + ")", ARGUMENT, () -> x.look(bad));
+        due.equal("look(1)", x.look(1), 0);
+        x.crew(0, 0, 0, 0, 0);
+        x.crew(1, 0, 99, 0, 0);
+        due.equal("look(1), ranks 0 and 99", x.look(1), 2);
+    }
+
+    /** "types not 0 .. 7" */
+    private static void promise08RefusesTypes() {
+        CrewOffice x = new CrewOffice();
+        for (int types : Scene.outside(0, 7)) {
+            due.fails("crew of types " + types, Due.ARGUMENT, () -> x.crew(0, 0, 0, types, 0));
         }
+        due.equal("look(1)", x.look(1), 0);
+        x.crew(0, 0, 0, 0, 0);
+        x.crew(1, 0, 0, 7, 0);
+        due.equal("look(1), types 0 and 7", x.look(1), 2);
+    }
+
+    /** "or flown not 0 .. 20000" */
+    private static void promise08RefusesMinutesFlown() {
+        CrewOffice x = new CrewOffice();
+        for (int flown : Scene.outside(0, 20000)) {
+            due.fails("crew with flown " + flown, Due.ARGUMENT, () -> x.crew(0, 0, 0, 0, flown));
+        }
+        due.equal("look(1)", x.look(1), 0);
+        x.crew(0, 0, 0, 0, 0);
+        x.crew(1, 0, 0, 0, 20000);
+        due.equal("look(1), flown 0 and 20000", x.look(1), 2);
+    }
+
+    /** "A crew's time off": "from a minute to before another one"; the chain is from 40 to before 430 */
+    private static void promise09IsOffFromAMinuteToBeforeAnother() {
+        CrewOffice x = Scene.twoFlights(100, 200, 300, 400);
+        int[][] spans = {
+            {0, 40, 0}, {0, 41, 11}, {40, 41, 11}, {39, 40, 0}, {429, 430, 11}, {430, 431, 0}, {429, 20160, 11},
+            {430, 20160, 0}, {0, 20160, 11}, {240, 241, 11}, {40, 430, 11}};
+        for (int[] span : spans) {
+            x.off(0, span[0], span[1]);
+            due.equal("check(0), off from " + span[0] + " to " + span[1], x.check(0), span[2]);
+            due.equal("check(-1)", x.check(-1), 0);
+        }
+    }
+
+    /** "none if that is not later" */
+    private static void promise09IsNotOffIfThatIsNotLater() {
+        CrewOffice x = Scene.twoFlights(100, 200, 300, 400);
+        int[][] spans = {{100, 100}, {101, 100}, {300, 100}, {20160, 0}, {20160, 20160}, {0, 0}, {500, 41}};
+        for (int[] span : spans) {
+            x.off(0, 0, 20160);
+            due.equal("check(0), off all the time", x.check(0), 11);
+            x.off(0, span[0], span[1]);
+            due.equal("check(0), off from " + span[0] + " to " + span[1], x.check(0), 0);
+        }
+    }
+
+    /** A time off is in place of the one before, and of one crew alone. */
+    private static void promise09TakesThePlaceOfAnother() {
+        CrewOffice x = Scene.twoFlights(100, 200, 300, 400);
+        x.crew(3, 0, 5, 7, 0);
+        x.off(3, 100, 200);
+        due.equal("check(3)", x.check(3), 11);
+        due.equal("check(0)", x.check(0), 0);
+        x.off(3, 5000, 6000);
+        due.equal("check(3), another time off", x.check(3), 0);
+    }
+
+    /** "Throws IllegalArgumentException when it is not 0 .. 3" */
+    private static void promise09RefusesACrew() {
+        CrewOffice x = new CrewOffice();
+        for (int crew : Scene.outside(0, 3)) {
+            due.fails("off(" + crew + ", ..)", Due.ARGUMENT, () -> x.off(crew, 0, 0));
+        }
+    }
+
+    /** "or a time is not 0 .. 20160" */
+    private static void promise09RefusesATime() {
+        CrewOffice x = Scene.twoFlights(100, 200, 300, 400);
+        for (int time : Scene.outside(0, 20160)) {
+            due.fails("off from " + time, Due.ARGUMENT, () -> x.off(0, time, 20160));
+            due.fails("off to " + time, Due.ARGUMENT, () -> x.off(0, 0, time));
+        }
+        due.equal("check(0)", x.check(0), 0);
+    }
+
+    /** "NoSuchElementException when it is not there"; of two exceptions the first one listed */
+    private static void promise09RefusesACrewThatIsNotThere() {
+        CrewOffice x = new CrewOffice();
+        x.crew(1, 0, 0, 0, 0);
+        for (int k : new int[] {0, 2, 3}) {
+            int crew = k;
+            due.fails("off(" + crew + ", 0, 0)", Due.ELEMENT, () -> x.off(crew, 0, 0));
+            due.fails("off(" + crew + ", 0, 20160)", Due.ELEMENT, () -> x.off(crew, 0, 20160));
+            due.fails("off(" + crew + ", -1, 0)", Due.ARGUMENT, () -> x.off(crew, -1, 0));
+            due.fails("off(" + crew + ", 0, 20161)", Due.ARGUMENT, () -> x.off(crew, 0, 20161));
+        }
+    }
+
+    /** "Throws .. when there is no such station" */
+    private static void promise22RefusesAStation() {
+        CrewOffice x = new CrewOffice();
+        for (int station : Scene.outside(0, 4)) {
+            due.fails("local(" + station + ", 0)", Due.ARGUMENT, () -> x.local(station, 0));
+        }
+    }
+
+    /** "or the minute is not 0 .. 20160" */
+    private static void promise22RefusesAMinute() {
+        CrewOffice x = new CrewOffice();
+        for (int minute : Scene.outside(0, 20160)) {
+            due.fails("local(0, " + minute + ")", Due.ARGUMENT, () -> x.local(0, minute));
+        }
+        due.equal("local(0, 0)", x.local(0, 0), 0);
+        due.equal("local(0, 20160)", x.local(0, 20160), 20160);
+    }
+
+    /** "The local time of a minute": it is below 0, or above 20160, where the offset makes it so */
+    private static void promise22MayLieOutsideOfTime() {
+        CrewOffice x = new CrewOffice();
+        x.zone(3, -720, 20160, 720);
+        due.equal("local(3, 0)", x.local(3, 0), -720);
+        due.equal("local(3, 719)", x.local(3, 719), -1);
+        due.equal("local(3, 720)", x.local(3, 720), 0);
+        due.equal("local(3, 20159)", x.local(3, 20159), 19439);
+        due.equal("local(3, 20160)", x.local(3, 20160), 20880);
     }
 }
