@@ -997,8 +997,8 @@ public final class CrewOffice {
             int best = NONE;
             int bestValue = 0;
             int open = left & allowed[k];
-            for (int set = open; set >= 0; set = set == 0 ? NONE : (set - 1) & open) {
-                if (fits(k, set)) {
+            for (int set = open; set >= 0; set--) {
+                if ((set & ~open) == 0 && fits(k, set)) {
                     int value = valueOf(plan.members[order[k]], set);
                     if ((best == NONE || value > bestValue) && canGiveRest(0, left & ~set, k + 1)) {
                         best = set;

@@ -159,7 +159,7 @@ final class PairingTest {
             due.equal("pairing(" + i + ", 1)", x.pairing(i, 1), 2 + i / 5 % 4);
             due.equal("pairing(" + i + ", 2)", x.pairing(i, 2), 6 + i % 5);
         }
-        due.equal("cover(): five pairings, four fees", x.cover(), 5 * 330 + 4 * 200);
+        covered(x, "five pairings, four fees", 5 * 330 + 4 * 200, 0, 1, 7, 13, 39);
     }
 
     /** "-1, and none is listed, when there are more than 40" */
@@ -301,6 +301,28 @@ final class PairingTest {
         covered(x, "eleven ways back", 11 * 240 + 55 + 10 * 10000, 0, 1, 2, 3, 4, 5, 6, 7, 8, 9, 10);
     }
 
+    /** Forty pairings, and the last one is not in the cover: only flight 2 arrives early enough for flight 3. */
+    private static void promise16LeavesTheLastOfForty() {
+        CrewOffice x = new CrewOffice();
+        x.crew(0, 0, 0, 7, 0);
+        int[] arrives = {460, 450, 440};
+        for (int k = 0; k < 3; k++) {
+            x.flight(k, 0, 1, 400, arrives[k], 0);
+        }
+        int[] departs = {470, 480, 480, 490};
+        for (int k = 0; k < 4; k++) {
+            x.flight(3 + k, 1, 2, departs[k], 560, 0);
+        }
+        for (int k = 7; k < 12; k++) {
+            x.flight(k, 2, 0, 600, 660, 0);
+        }
+        due.equal("pairings()", x.pairings(), 40);
+        due.equal("pairing(39, 0)", x.pairing(39, 0), 2);
+        due.equal("pairing(39, 1)", x.pairing(39, 1), 6);
+        due.equal("pairing(39, 2)", x.pairing(39, 2), 11);
+        covered(x, "five pairings, three fees", 5 * 350 + 3 * 200, 0, 1, 7, 13, 24);
+    }
+
     /** "has the least cost": more minutes, or fees, whichever is less */
     private static void promise16HasTheLeastCost() {
         CrewOffice x = new CrewOffice();
@@ -341,30 +363,31 @@ final class PairingTest {
         covered(x, "four ways back for three ways out: 0 and 1, then 6 and 11", 4 * 240 + 200, 0, 1, 6, 11);
     }
 
-    /** "the least pairing by which two of them differ": of two short ones and a long one, where that is less or not */
-    private static void promise16TakesTheLeastOfUnequalSizes() {
+    /** Four flights with these numbers, out, back, out and back, each second one begun where and when the first ends. */
+    private static CrewOffice backToBack(int... numbers) {
         CrewOffice x = new CrewOffice();
         x.crew(0, 0, 0, 7, 0);
         x.rule(0, 0);
         x.rule(1, 0);
         x.rule(2, 0);
-        x.flight(0, 0, 1, 400, 450, 0);
-        x.flight(1, 1, 0, 500, 550, 0);
-        x.flight(2, 0, 1, 550, 600, 0);
-        x.flight(3, 1, 0, 650, 700, 0);
-        listed(x, "without a turn", row(0, 1), row(0, 1, 2, 3), row(0, 3), row(2, 3));
-        covered(x, "two short ones as long as the long one", 150 + 150, 0, 3);
-        CrewOffice turned = new CrewOffice();
-        turned.crew(0, 0, 0, 7, 0);
-        turned.rule(0, 0);
-        turned.rule(1, 0);
-        turned.rule(2, 0);
-        turned.flight(0, 0, 1, 400, 450, 0);
-        turned.flight(3, 1, 0, 500, 550, 0);
-        turned.flight(2, 0, 1, 550, 600, 0);
-        turned.flight(1, 1, 0, 650, 700, 0);
-        listed(turned, "the long one", row(0, 1), row(0, 3), row(0, 3, 2, 1), row(2, 1));
-        covered(turned, "two short ones, 1 and 3, before the long one, 2", 150 + 150, 1, 3);
+        x.flight(numbers[0], 0, 1, 400, 450, 0);
+        x.flight(numbers[1], 1, 0, 500, 550, 0);
+        x.flight(numbers[2], 0, 1, 550, 600, 0);
+        x.flight(numbers[3], 1, 0, 650, 700, 0);
+        return x;
+    }
+
+    /** "the least pairing by which two of them differ": two short ones are as long as the long one */
+    private static void promise16TakesTheLeastOfUnequalSizes() {
+        CrewOffice x = backToBack(0, 1, 2, 3);
+        listed(x, "the long one is 1", row(0, 1), row(0, 1, 2, 3), row(0, 3), row(2, 3));
+        covered(x, "0 and 3 before 1", 150 + 150, 0, 3);
+        CrewOffice turned = backToBack(0, 3, 2, 1);
+        listed(turned, "the long one is 2", row(0, 1), row(0, 3), row(0, 3, 2, 1), row(2, 1));
+        covered(turned, "1 and 3 before 2", 150 + 150, 1, 3);
+        CrewOffice late = backToBack(2, 3, 0, 1);
+        listed(late, "the long one is 3", row(0, 1), row(2, 1), row(2, 3), row(2, 3, 0, 1));
+        covered(late, "0 and 2 before 3", 150 + 150, 0, 2);
     }
 
     /** "(0 without a flight)" */

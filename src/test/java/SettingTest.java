@@ -90,6 +90,19 @@ final class SettingTest {
         due.equal("check(0) by the rules at first", two.check(0), 0);
     }
 
+    /** "An object is used for at most 512 calls": the last of them is answered as the first ones are */
+    private static void promise01IsUsedFor512Calls() {
+        CrewOffice x = Scene.twoFlights(100, 200, 300, 400);
+        // six calls until here
+        for (int k = 6; k < 508; k++) {
+            due.equal("move(1, ..)", x.move(1, k % 2 == 0 ? 1 : -1), true);
+        }
+        due.equal("call 509, pairings()", x.pairings(), 1);
+        due.equal("call 510, cover()", x.cover(), 390);
+        due.equal("call 511, award()", x.award(), true);
+        due.equal("call 512, owner(0)", x.owner(0), 0);
+    }
+
     /** "A station's offsets and when they change": "from a minute CHANGE on another one" */
     private static void promise02ChangesAtItsMinute() {
         CrewOffice x = new CrewOffice();
