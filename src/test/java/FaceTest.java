@@ -85,14 +85,13 @@ final class FaceTest {
             return;
         }
         com.sun.management.ThreadMXBean threads = (com.sun.management.ThreadMXBean) ManagementFactory.getThreadMXBean();
-        long me = Thread.currentThread().getId();
         CrewOffice x = Scene.busy();
         useAll(x);
-        long before = threads.getThreadAllocatedBytes(me);
+        long before = threads.getCurrentThreadAllocatedBytes();
         for (int k = 0; k < 10; k++) {
             useAll(x);
         }
-        long made = threads.getThreadAllocatedBytes(me) - before;
+        long made = threads.getCurrentThreadAllocatedBytes() - before;
         // what the measuring makes by itself is far below a row of an int for each flight in each round
         due.equal("bytes made by 10 rounds: " + made, made < 10 * 64, true);
     }
