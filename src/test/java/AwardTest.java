@@ -378,6 +378,36 @@ final class AwardTest {
         }
     }
 
+    /** Each award looks at the pairings as they are now: too near before, and far enough now, and the other way round. */
+    private static void promise19KeepsToRestsOfNow() {
+        CrewOffice x = twoOnADay(1409, false);
+        rested(x, "599 between", 0, 1);
+        x.move(2, 1);
+        rested(x, "600 between, behind an award with 599", 0, 0);
+        x.move(2, -1);
+        rested(x, "599 between, behind an award with 600", 0, 1);
+    }
+
+    /** "of two of them the later": of two at once neither is, and they are not for one crew, with REST 0, too */
+    private static void promise19KeepsTwoAtOnceApart() {
+        // where the second one begins and ends beside the first one, from 420 to 810
+        int[][] besides = {{0, 0}, {0, 5}, {5, 0}, {5, 5}, {-5, 5}, {5, -5}, {-5, 0}, {0, -5}};
+        for (int[] beside : besides) {
+            CrewOffice x = new CrewOffice();
+            x.rule(4, 0);
+            x.flight(0, 0, 1, 480, 600, 0);
+            x.flight(1, 1, 0, 660, 780, 0);
+            x.flight(2, 0, 2, 480 + beside[0], 600, 0);
+            x.flight(3, 2, 0, 660, 780 + beside[1], 0);
+            x.crew(0, 0, 9, 7, 0);
+            due.equal("pairings()", x.pairings(), 2);
+            x.cover();
+            due.equal("award() to one crew, " + beside[0] + " and " + beside[1], x.award(), false);
+            x.crew(1, 0, 5, 7, 0);
+            rested(x, "to two crews, " + beside[0] + " and " + beside[1], 0, 1);
+        }
+    }
+
     /** "REST or more behind": nothing between is enough for REST 0; a minute in both is not */
     private static void promise19KeepsToRestsOfNothing() {
         for (int first : new int[] {0, 2}) {
